@@ -46,12 +46,15 @@ final class AppealsTest {
         x.adjust(0, 0, 10);
         Check.due("eye: mark", x.write(0, 0, 40), 7);
         Check.due("eye: hope", x.appeal(0, 2), 3);
+        x.adjust(0, 0, 20);
+        Check.due("eye: mark by a wide gap", x.write(0, 0, 40), 4);
+        Check.due("eye: hope by a wide gap", x.appeal(1, 2), 6);
         x.adjust(0, 20, 10);
         // p is 40 + 20 + 6.
         Check.due("eye: mark with the zero error", x.write(0, 0, 40), 7);
         x.train(0, 6, 8);
         // The eye 0, but the zero error of 20 stays in.
-        Check.due("eye: negative hope", x.appeal(1, 2), -7);
+        Check.due("eye: negative hope", x.appeal(2, 2), -7);
         Check.due("eye: it is an act", x.count(7), 4);
         Check.due("eye: the eye stays", x.pupil(0, 0), 6);
     }
@@ -266,5 +269,13 @@ final class AppealsTest {
         Check.due("mark 2: no hope", x.appeal(1, 2), 0);
         x.decide();
         Check.due("mark 1: left", x.paper(1, 4), 1);
+        x.setTrap(0, 0);
+        x.train(0, 0, 8);
+        x.adjust(0, 9, 0);
+        Check.due("mark 1", x.write(0, 0, 40), 1);
+        x.appeal(2, 1);
+        x.decide();
+        Check.due("mark 0: left", x.paper(2, 4), 0);
+        Check.due("mark 0: sum", x.pupil(0, 4), 1);
     }
 }

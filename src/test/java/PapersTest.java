@@ -5,6 +5,7 @@ final class PapersTest {
         papersDoNotChange();
         writeUntilFull();
         wouldWithoutEachWeakness();
+        wouldBeWorseWithoutHaste();
         wouldAsThingsAreNow();
         wouldWrongly();
         Check.end();
@@ -104,6 +105,18 @@ final class PapersTest {
         // Not corrected, and even: 46 for 40, 48 for 41.
         Check.due("would: uncorrected", x.would(0, 0), 4 + 3 + 4 + 5);
         Check.due("would: no habit at all", x.would(0, 2), 6 + 6 + 4 + 6);
+    }
+
+    private static void wouldBeWorseWithoutHaste() {
+        VernierSchool x = new VernierSchool();
+        x.addInstrument(10, 4, 50, false);
+        x.adjust(0, 0, 10);
+        x.addPupil(5, 1);
+        // p is 51: the hasty 48 is 2 off, the nearest line 52 is 6 off.
+        Check.due("haste: mark", x.write(0, 0, 46), 10);
+        Check.due("haste: as the pupil is", x.would(0, 0), 10);
+        Check.due("haste: no habits", x.would(0, 2), 9);
+        Check.due("haste: eye 0", x.would(0, 1), 10);
     }
 
     private static void wouldAsThingsAreNow() {

@@ -6,6 +6,7 @@ final class PupilsTest {
         teach();
         train();
         pupil();
+        lowestMark();
         ranksByMean();
         ranksOfTheSameMean();
         rankedWrongly();
@@ -160,8 +161,17 @@ final class PupilsTest {
     private static void ranksByMean() {
         // The means: 6, 0, none, 20 / 3, 8.
         ranks("means", withMarks(new int[][] {{6}, {0}, {}, {10, 10, 0}, {8, 8}}), 4, 3, 0, 1, 2);
+        ranks("one paper each", withMarks(new int[][] {{0}, {2}, {4, 4}}), 2, 1, 0);
+        ranks("one paper against two", withMarks(new int[][] {{10}, {4, 4}}), 0, 1);
         // 22 / 3 against 7 and a bit less: whole means would be the same.
         ranks("exact means", withMarks(new int[][] {{6, 8}, {6, 8, 8}, {10, 4, 8, 6, 8}}), 1, 2, 0);
+    }
+
+    private static void lowestMark() {
+        VernierSchool x = withMarks(new int[][] {{2, 8}, {8, 0, 4}, {10, 6}});
+        Check.due("lowest: the first paper", x.pupil(0, 8), 2);
+        Check.due("lowest: the middle one", x.pupil(1, 8), 0);
+        Check.due("lowest: the last one", x.pupil(2, 8), 6);
     }
 
     private static void ranksOfTheSameMean() {

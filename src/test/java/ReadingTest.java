@@ -81,6 +81,8 @@ final class ReadingTest {
         Check.due("hasty: behind the line", x.answer(0, 0, 49), 48);
         Check.due("hasty: between two", x.answer(0, 0, 50), 48);
         Check.due("hasty: ahead of the line", x.answer(0, 0, 51), 48);
+        Check.due("hasty: odd numbers stay", x.answer(0, 0, 52), 52);
+        Check.due("hasty: the edge is no edge", x.answer(0, 0, 67), 64);
         x.train(0, 0, 0);
         Check.due("not hasty", x.answer(0, 0, 51), 52);
     }
