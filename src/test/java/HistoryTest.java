@@ -2,7 +2,6 @@
 final class HistoryTest {
     public static void main(String[] args) {
         fourStates();
-        undoOfEachAct();
         noStateOfErrors();
         keepAndRestore();
         snapshotIsApart();
@@ -34,23 +33,6 @@ final class HistoryTest {
         }
     }
 
-    /** All that is told of a state, but for the text and the history. */
-    private static String told(VernierSchool x) {
-        StringBuilder told = new StringBuilder();
-        for (int what = 0; what <= 6; what++) {
-            told.append(x.count(what)).append(' ');
-        }
-        for (int i = 0; i < 2; i++) {
-            for (int what = 0; what <= 10; what++) {
-                told.append(x.instrument(i, what)).append(' ');
-                told.append(x.pupil(i, what)).append(' ');
-                told.append(x.paper(i, what)).append(' ');
-            }
-            told.append(x.ranked(i)).append(' ').append(x.waiting(i)).append('\n');
-        }
-        return told.toString();
-    }
-
     private static VernierSchool school() {
         VernierSchool x = new VernierSchool();
         x.addInstrument(10, 2, 50, false);
@@ -60,43 +42,6 @@ final class HistoryTest {
         x.write(0, 0, 46);
         Check.typeAll(x, "0/0@17;0/0@20");
         return x;
-    }
-
-    private static int act(VernierSchool x, int act) {
-        switch (act) {
-            case 0: return x.addInstrument(5, 3, 9, true);
-            case 1: return x.adjust(0, -5, 11);
-            case 2: return x.setTrap(0, 3);
-            case 3: return x.announce(0);
-            case 4: return x.addPupil(1, 2);
-            case 5: return x.teach(0, 2);
-            case 6: return x.train(0, 0, 15);
-            case 7: return x.write(0, 0, 5);
-            case 8: return x.appeal(0, 1);
-            default: return x.readPapers();
-        }
-    }
-
-    private static void undoOfEachAct() {
-        for (int act = 0; act < 10; act++) {
-            VernierSchool x = school();
-            String before = told(x);
-            Check.isTrue("undo: act " + act + " is done", act(x, act) > -100);
-            Check.isTrue("undo: act " + act + " is told", !told(x).equals(before));
-            Check.due("undo: act " + act, x.undo(), 3);
-            Check.isTrue("undo: act " + act + " is undone", told(x).equals(before));
-            x.undo();
-            x.undo();
-            Check.due("undo: the last of the four", x.undo(), 0);
-            Check.due("undo: no pupil then", x.count(1), 0);
-        }
-        VernierSchool x = school();
-        x.appeal(0, 1);
-        String before = told(x);
-        x.decide();
-        Check.isTrue("undo: decide is told", !told(x).equals(before));
-        x.undo();
-        Check.isTrue("undo: decide is undone", told(x).equals(before));
     }
 
     private static void noStateOfErrors() {
@@ -135,28 +80,28 @@ final class HistoryTest {
         Check.due("restore: none", x.restore(), VernierSchool.NONE);
         Check.due("keep: papers", x.keep(), 1);
         Check.due("keep: is no act", x.count(7), 4);
-        String kept = told(x);
+        String kept = Schools.told(x, 1);
         x.write(0, 0, 9);
         x.appeal(0, 2);
         x.decide();
         x.addPupil(3, 3);
         x.train(0, 4, 4);
-        String later = told(x);
+        String later = Schools.told(x, 1);
         Check.due("restore: papers", x.restore(), 1);
-        Check.isTrue("restore: as kept", told(x).equals(kept));
+        Check.isTrue("restore: as kept", Schools.told(x, 1).equals(kept));
         Check.due("restore: four states", x.count(7), 4);
         Check.due("restore: undo", x.undo(), 3);
-        Check.isTrue("restore: undone", told(x).equals(later));
+        Check.isTrue("restore: undone", Schools.told(x, 1).equals(later));
         Check.due("restore: stays", x.restore(), 1);
         Check.due("restore: twice", x.restore(), 1);
         x.undo();
-        Check.isTrue("restore: the same is an act", told(x).equals(kept));
+        Check.isTrue("restore: the same is an act", Schools.told(x, 1).equals(kept));
         x.undo();
-        Check.isTrue("restore: the first of both", told(x).equals(later));
+        Check.isTrue("restore: the first of both", Schools.told(x, 1).equals(later));
         Check.due("keep: again", x.keep(), 2);
         x.undo();
         Check.due("restore: the newer one", x.restore(), 2);
-        Check.isTrue("restore: as kept again", told(x).equals(later));
+        Check.isTrue("restore: as kept again", Schools.told(x, 1).equals(later));
     }
 
     private static void snapshotIsApart() {

@@ -133,23 +133,6 @@ final class PupilsTest {
         Check.due("pupil: no pupil -1", x.pupil(-1, 0), VernierSchool.UNKNOWN);
     }
 
-    /** A pupil for each row of even marks, who gets these marks, and no history that matters. */
-    private static VernierSchool withMarks(int[][] marks) {
-        VernierSchool x = new VernierSchool();
-        // By trap 1 a setting s below 12 is answered by 12 - s: the mark is 2 * s - 2.
-        x.addInstrument(12, 1, 2, false);
-        x.setTrap(0, 1);
-        for (int pupil = 0; pupil < marks.length; pupil++) {
-            x.addPupil(0, 0);
-        }
-        for (int pupil = 0; pupil < marks.length; pupil++) {
-            for (int mark : marks[pupil]) {
-                Check.due("rank: mark", x.write(pupil, 0, (mark + 2) / 2), mark);
-            }
-        }
-        return x;
-    }
-
     private static void ranks(String what, VernierSchool x, int... order) {
         for (int place = 0; place < order.length; place++) {
             Check.due(what + ": ranked(" + place + ")", x.ranked(place), order[place]);
@@ -160,28 +143,31 @@ final class PupilsTest {
 
     private static void ranksByMean() {
         // The means: 6, 0, none, 20 / 3, 8.
-        ranks("means", withMarks(new int[][] {{6}, {0}, {}, {10, 10, 0}, {8, 8}}), 4, 3, 0, 1, 2);
-        ranks("one paper each", withMarks(new int[][] {{0}, {2}, {4, 4}}), 2, 1, 0);
-        ranks("one paper against two", withMarks(new int[][] {{10}, {4, 4}}), 0, 1);
+        ranks("means", Schools.withMarks(new int[][] {{6}, {0}, {}, {10, 10, 0}, {8, 8}}),
+                4, 3, 0, 1, 2);
+        ranks("one paper each", Schools.withMarks(new int[][] {{0}, {2}, {4, 4}}), 2, 1, 0);
+        ranks("one paper against two", Schools.withMarks(new int[][] {{10}, {4, 4}}), 0, 1);
         // 22 / 3 against 7 and a bit less: whole means would be the same.
-        ranks("exact means", withMarks(new int[][] {{6, 8}, {6, 8, 8}, {10, 4, 8, 6, 8}}), 1, 2, 0);
+        ranks("exact means", Schools.withMarks(new int[][] {{6, 8}, {6, 8, 8}, {10, 4, 8, 6, 8}}),
+                1, 2, 0);
     }
 
     private static void lowestMark() {
-        VernierSchool x = withMarks(new int[][] {{2, 8}, {8, 0, 4}, {10, 6}});
+        VernierSchool x = Schools.withMarks(new int[][] {{2, 8}, {8, 0, 4}, {10, 6}});
         Check.due("lowest: the first paper", x.pupil(0, 8), 2);
         Check.due("lowest: the middle one", x.pupil(1, 8), 0);
         Check.due("lowest: the last one", x.pupil(2, 8), 6);
     }
 
     private static void ranksOfTheSameMean() {
-        ranks("more papers", withMarks(new int[][] {{}, {4}, {8, 0}, {4, 4}, {}}), 2, 3, 1, 0, 4);
-        ranks("no papers at all", withMarks(new int[][] {{}, {}, {}}), 0, 1, 2);
-        ranks("mean 0", withMarks(new int[][] {{}, {0}, {0, 0}}), 2, 1, 0);
+        ranks("more papers", Schools.withMarks(new int[][] {{}, {4}, {8, 0}, {4, 4}, {}}),
+                2, 3, 1, 0, 4);
+        ranks("no papers at all", Schools.withMarks(new int[][] {{}, {}, {}}), 0, 1, 2);
+        ranks("mean 0", Schools.withMarks(new int[][] {{}, {0}, {0, 0}}), 2, 1, 0);
     }
 
     private static void rankedWrongly() {
-        VernierSchool x = withMarks(new int[][] {{2}, {4}});
+        VernierSchool x = Schools.withMarks(new int[][] {{2}, {4}});
         Check.due("ranked(-1)", x.ranked(-1), VernierSchool.BAD_VALUE);
         Check.due("ranked least int", x.ranked(Integer.MIN_VALUE), VernierSchool.BAD_VALUE);
         Check.due("ranked greatest int", x.ranked(Integer.MAX_VALUE), VernierSchool.NONE);
